@@ -28,6 +28,7 @@ public final class BestTest {
         x.tell(0, 50);
         Due.due("a lie that lures it", x.lie(-2, 2, 0), 6);
         Due.due("of like ones the first", x.lie(99, 3, 0), 1);
+        Due.due("cell 0 may be the one", x.lie(-50, 2, 0), 0);
         Due.due("v 100", x.lie(100, 0, 0), -2);
         Due.due("v -100", x.lie(-100, 0, 0), -2);
         Due.due("n -1", x.lie(0, -1, 0), -2);
@@ -74,6 +75,13 @@ public final class BestTest {
         Due.due("what 2", x.blow(0, 2), -2);
         Due.due("what -1", x.blow(0, -1), -2);
         Due.due("rocks stand", x.count(4), 4);
+        x = new LighthouseLiedTo();
+        x.force(Due.textOf(x, "shines 0 ; fades 0 ; fears 0 ;"));
+        x.ship(0, 0);
+        x.rock(35, 1);
+        x.rock(0, 1);
+        Due.due("cell 0 may be the one", x.blow(1, 0), 0);
+        Due.due("none is lost then", x.blow(1, 1), 0);
     }
 
     /** 22 */
@@ -128,6 +136,11 @@ public final class BestTest {
         Due.due("99 by 4 is 24, by 3 it is 33", x.trust(2, 99, 1), 30);
         Due.due("93 by 3 is 31", x.trust(2, 93, 1), 30);
         Due.due("92 by 3 is 30", x.trust(2, 92, 1), 20);
+        x.tell(2, 21);
+        Due.due("99 by 10 is 9", x.trust(2, 99, 1), 90);
+        Due.due("belief of 2", x.tell(2, 1), 22);
+        Due.due("9 is too much", x.trust(2, 99, 1), -1);
+        x.tell(2, -22);
         Due.due("nothing to be less", x.trust(2, -99, 1), 0);
         x.rock(2, 1);
         Due.due("lost by any doubt", x.trust(2, -99, 1), -1);
@@ -150,6 +163,16 @@ public final class BestTest {
         x.tell(0, -30);
         Due.due("all, above", x.truth(0), 1);
         Due.due("all, below", x.truth(1), 1);
+        x.rock(0, 1);
+        x.tell(3, -8);
+        x.tell(4, -12);
+        x.tell(1, 2);
+        x.tell(0, 1);
+        Due.due("of cell 0, above", x.truth(0), 1);
+        Due.due("of cell 0, below", x.truth(1), 3);
+        x.tell(1, -2);
+        Due.due("of 1, above", x.truth(0), 1);
+        Due.due("of 1, below", x.truth(1), 1);
         Due.due("part -1", x.truth(-1), LighthouseLiedTo.NO);
         Due.due("part 2", x.truth(2), LighthouseLiedTo.NO);
     }

@@ -30,6 +30,8 @@ public final class NightsTest {
             Due.due("likes elsewhere of kind " + s, x.likes(s, 20), at20[s]);
         }
         Due.due("a ghost's own", x.likes(5, 32), 99);
+        x.force(Due.textOf(x, "shines 9999 ; fades 0 ; fears 0 ;"));
+        Due.due("a tenth, of 20 more, too", x.likes(4, 14), 11);
         x = new LighthouseLiedTo();
         x.ship(59, 0);
         Due.due("36 modulo 36", x.likes(0, 0), 99);
@@ -87,6 +89,11 @@ public final class NightsTest {
             Due.due("lost of kind " + k, x.night(), 1);
             Due.due("taught by kind " + k, x.believes(3), Math.max(48, teaches[k]));
             Due.due("doubt is more by kind " + k, x.count(3), 1);
+            x.tell(3, -99);
+            x.tell(3, -99);
+            x.doubts(0);
+            x.ship(10 * k, 301);
+            Due.due("another of kind " + k, x.run(5, 23), teaches[k]);
         }
         LighthouseLiedTo x = new LighthouseLiedTo();
         x.force(Due.textOf(x, "shines 0;fades 0;fears 0;"));
@@ -262,6 +269,8 @@ public final class NightsTest {
         Due.due("brightest", x.sea(1), Due.bits(29, 34));
         Due.due("none where believed", x.sea(2), Due.bits(1));
         Due.due("one where not believed", x.sea(3), Due.bits(0, 6));
+        x.tell(0, 50);
+        Due.due("cell 0, believed", x.sea(3), Due.bits(6));
         Due.due("sea -1", x.sea(-1), LighthouseLiedTo.NO);
         Due.due("sea 4", x.sea(4), LighthouseLiedTo.NO);
         x.force(Due.textOf(x, "shines -9999 ; fades 0 ; fears 0 ;"));

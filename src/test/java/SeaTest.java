@@ -185,6 +185,11 @@ public final class SeaTest {
         Due.due("stays at the corner", x.told(0, 5), 35);
         x.tell(35, 9);
         Due.due("a column back ahead of a row back", x.told(0, 5), 34);
+        x.put(0, 0, 6);
+        x.tell(6, 50);
+        x.tell(7, 50);
+        x.tell(12, 50);
+        Due.due("a row back", x.told(0, 5), 0);
         x.put(0, 0, 5);
         x.tell(5, 50);
         x.tell(4, 99);

@@ -99,6 +99,8 @@ public final class TalesTest {
         y.rock(6, 1);
         Due.due("none, above", y.odds(5, 3, 0, 0, 0), 0);
         Due.due("none, below", y.odds(5, 3, 0, 0, 1), 1);
+        Due.due("seed 0, of one", y.odds(0, 1, 0, 1, 1), 1);
+        Due.due("none of one", y.odds(0, 1, 0, 0, 0), 0);
         int[][] wrong = {{-1, 1, 0, 0, 0}, {100000, 1, 0, 0, 0}, {0, 0, 0, 0, 0}, {0, 41, 0, 0, 0}, {0, 1, 100, 0, 0},
             {0, 1, -100, 0, 0}, {0, 1, 0, -1, 0}, {0, 1, 0, 7, 0}, {0, 1, 0, 0, -1}, {0, 1, 0, 0, 2}};
         for (int[] w : wrong) {

@@ -173,6 +173,7 @@ public final class TextTest {
         Due.due("draught of 1", x.asks(2, 0, 1), 7);
         x.force(Due.textOf(x, "shines 0;fades draught;fears 0;"));
         Due.due("draught of 1 for fades, asked", x.asks(1, 0, 1), 7);
+        Due.due("0 is a number", x.asks(0, 0, 1), 0);
         x.night();
         Due.due("draught of none for fades, in a night", x.believes(23), 44);
         x.force(Due.textOf(x, "shines draught=0 and column = 2 ;fades 0;fears 0;"));
@@ -237,7 +238,49 @@ public final class TextTest {
         fault("shines (1 2);", 10);
         fault("shines (1", 9);
         fault("shines 1 not 2;", 9);
+        fault("shines 1 shines fades 1;fears 1;", 9);
+        fault("shines 1;fades 1;fears 1;fears", 25);
+        fault("shines 1;fades 1;fears 1;~", 25);
+        fault("shines rowz;", 7);
+        fault("shines xow;", 7);
+        fault("shines rox;", 7);
+        full();
+        before();
         fault("shines 1 (2);", 9);
+    }
+
+    /** A text of all the 160 bytes. */
+    private static void full() {
+        String text = "shines 1;fades 2;fears 0";
+        StringBuilder s = new StringBuilder(text);
+        while (s.length() < 157) {
+            s.append("+1");
+        }
+        while (s.length() < 159) {
+            s.append(' ');
+        }
+        LighthouseLiedTo x = new LighthouseLiedTo();
+        Due.due("160 bytes", Due.fed(x, s.append(';').toString()), 160);
+        Due.due("a text", x.text(), 1);
+        x.force(1);
+        Due.due("all of it", x.asks(2, 0, -1), 67);
+        Due.fed(x, s.toString().replace(';', ' '));
+        Due.due("a fault in its first stop", x.text(), -109);
+        for (int i = 0; i < 32; i++) {
+            x.feed(5, ' ', ' ', ' ', ' ', ' ');
+        }
+        Due.due("ends too early", x.text(), -260);
+    }
+
+    /** What stood on the tape before is none of it. */
+    private static void before() {
+        LighthouseLiedTo x = new LighthouseLiedTo();
+        Due.due("digits", Due.textOf(x, "11111111111111111111111111111111"), -100);
+        Due.due("one digit", Due.textOf(x, "shines 1"), -108);
+        Due.due("letters", Due.textOf(x, "rowwwwwwwwwwwwwwwwwwwwwwwwww"), -100);
+        Due.due("a name", Due.textOf(x, "shines row"), -110);
+        Due.due("blanks", Due.textOf(x, "                            "), -128);
+        Due.due("ends", Due.textOf(x, "shines "), -107);
     }
 
     private static void opens() {
