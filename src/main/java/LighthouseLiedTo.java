@@ -1015,14 +1015,12 @@ public final class LighthouseLiedTo {
         }
 
         private void expect(int wanted) {
-            if (fault != NONE) {
-                return;
-            }
             if (token != wanted) {
                 fail();
-                return;
             }
-            advance();
+            if (fault == NONE) {
+                advance();
+            }
         }
 
         /** Rank by rank: 0 or, 1 and, 2 what is compared (or not), 3 sums, 4 terms, 5 one. */
@@ -1066,7 +1064,13 @@ public final class LighthouseLiedTo {
                 if (mayOpen(open)) {
                     advance();
                     joined(0, open + 1);
-                    expect(CLOSE);
+                    // Not by expect(), which would be a call more where they stand deepest.
+                    if (token != CLOSE) {
+                        fail();
+                    }
+                    if (fault == NONE) {
+                        advance();
+                    }
                 }
             } else {
                 fail();

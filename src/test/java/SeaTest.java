@@ -185,6 +185,7 @@ public final class SeaTest {
         Due.due("stays at the corner", x.told(0, 5), 35);
         x.tell(35, 9);
         Due.due("a column back ahead of a row back", x.told(0, 5), 34);
+        order();
         x.put(0, 0, 6);
         x.tell(6, 50);
         x.tell(7, 50);
@@ -209,6 +210,20 @@ public final class SeaTest {
         x.tell(6, 9);
         Due.due("a lost one would stay", x.told(0, 5), 0);
         sinks();
+    }
+
+    /** 13, of like ones the first. */
+    private static void order() {
+        LighthouseLiedTo x = new LighthouseLiedTo();
+        x.force(Due.textOf(x, "shines 99 - belief ; fades 0 ; fears 0 ;"));
+        x.ship(0, 1400);
+        x.tell(14, 9);
+        int[] beside = {15, 13, 20, 8};
+        for (int c : beside) {
+            Due.due("the first of those left", x.told(0, 5), c);
+            x.tell(c, 9);
+        }
+        Due.due("stays", x.told(0, 5), 14);
     }
 
     private static void sinks() {
