@@ -4,7 +4,7 @@ import java.util.List;
 
 /** All promises: long runs of calls, each asked of the class and of the model. */
 public final class ModelTest {
-    private static final int RUNS = 600, CALLS = 500;
+    private static final int RUNS = 800, CALLS = 512, CALLS_OF_A_TEXT = 40;
 
     /** name, how often, and for each argument the least and the most that are as told. */
     private static final Object[][] CALLS_OF = {
@@ -26,6 +26,7 @@ public final class ModelTest {
         "30", "50", "99", "9999", "belief", "column", "row"};
 
     private static long state = 20261118L;
+    private static int calls;
 
     public static void main(String[] args) throws Exception {
         Method[] real = new Method[CALLS_OF.length];
@@ -42,8 +43,9 @@ public final class ModelTest {
         for (int run = 0; run < RUNS; run++) {
             LighthouseLiedTo x = new LighthouseLiedTo();
             Model y = new Model();
-            for (int call = 0; call < CALLS; call++) {
-                if (lot(40) == 0) {
+            calls = 0;
+            while (calls < CALLS) {
+                if (lot(40) == 0 && calls + CALLS_OF_A_TEXT <= CALLS) {
                     texts += textOf(run, x, y);
                     continue;
                 }
@@ -66,6 +68,7 @@ public final class ModelTest {
     }
 
     private static void due(int run, Object name, Object[] arguments, Object got, Object want) {
+        calls++;
         if (!got.equals(want)) {
             Due.due("run " + run + ": " + name + java.util.Arrays.toString(arguments),
                     ((Number) got).longValue(), ((Number) want).longValue());
